@@ -1,0 +1,36 @@
+/** Counts the answers that are not the ones that are due; every test of the project uses it. */
+final class Due {
+    private int wrong = 0;
+    private int asked = 0;
+
+    void is(String call, long got, long want) {
+        asked++;
+        if (got != want) {
+            wrong++;
+            System.out.println(call + " answered " + got + ", due is " + want);
+        }
+    }
+
+    void is(String call, boolean got, boolean want) {
+        is(call, got ? 1L : 0L, want ? 1L : 0L);
+    }
+
+    void rowThrows(CodePages x, int page, int i) {
+        String call = "row(" + page + ", " + i + ")";
+        String thrown = "nothing";
+        try {
+            x.row(page, i);
+        } catch (RuntimeException e) {
+            thrown = e.getClass().getName();
+        }
+        is(call + " threw " + thrown + "; AIOOBE counts 1",
+            thrown.equals("java.lang.ArrayIndexOutOfBoundsException"), true);
+    }
+
+    void end() {
+        System.out.println(asked + " answers asked, " + wrong + " not as due");
+        if (wrong != 0) {
+            System.exit(1);
+        }
+    }
+}
