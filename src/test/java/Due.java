@@ -18,13 +18,17 @@ final class Due {
     void rowThrows(CodePages x, int page, int i) {
         String call = "row(" + page + ", " + i + ")";
         String thrown = "nothing";
+        String message = "";
         try {
             x.row(page, i);
         } catch (RuntimeException e) {
             thrown = e.getClass().getName();
+            message = String.valueOf(e.getMessage());
         }
         is(call + " threw " + thrown + "; AIOOBE counts 1",
             thrown.equals("java.lang.ArrayIndexOutOfBoundsException"), true);
+        // The machine's own exception has this text; rule 7 wants a throw statement instead.
+        is(call + " let the machine throw", message.startsWith("Index "), false);
     }
 
     void end() {
