@@ -1,13 +1,19 @@
 /** Counts the answers that are not the ones that are due; every test of the project uses it. */
 final class Due {
+    private String sentence = "";
     private int wrong = 0;
     private int asked = 0;
+
+    /** From here on a wrong answer is told with the document's sentence that it breaks. */
+    void about(String words) {
+        sentence = "\"" + words + "\": ";
+    }
 
     void is(String call, long got, long want) {
         asked++;
         if (got != want) {
             wrong++;
-            System.out.println(call + " answered " + got + ", due is " + want);
+            System.out.println(sentence + call + " answered " + got + ", due is " + want);
         }
     }
 
