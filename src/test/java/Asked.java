@@ -7,10 +7,9 @@ import java.util.Arrays;
 final class Asked {
     static final int MIN = Integer.MIN_VALUE;
     static final int MAX = Integer.MAX_VALUE;
+    static final int MOST_CALLS = 512;
     /** No codes: the first ones outside, those that would wrap into the codes, the smallest and the greatest. */
     static final int[] NO_CODES = {-1, 256, MIN, MAX, -256, 256 + 65, 65536 + 65, MIN + 65};
-
-    private static final int MOST_CALLS = 512;
 
     private final CodePages x = new CodePages();
     private final Due due;
@@ -106,6 +105,11 @@ final class Asked {
 
     Answer rank(int order, int c) {
         return answer("rank", x.rank(order, c), order, c);
+    }
+
+    /** How many calls the object has answered. */
+    int calls() {
+        return calls;
     }
 
     /** A new text with these codes: its number. */

@@ -55,8 +55,30 @@ public final class FaceTest {
         due.is("the class is public and final",
             CodePages.class.getModifiers(), Modifier.PUBLIC | Modifier.FINAL);
         checkInside(due, publicNames);
+        checkHead(due);
         due.is("NONE", CodePages.NONE, -1);
+        due.is("NONE is a constant", isNone(-1), true);
         due.end();
+    }
+
+    /** "public final class CodePages {": nothing stands between the name and the brace, nor a package before it. */
+    private static void checkHead(Due due) {
+        Class<?> face = CodePages.class;
+        due.is("it extends Object alone", face.getSuperclass() == Object.class, true);
+        due.is("interfaces that it implements", face.getInterfaces().length, 0);
+        due.is("type parameters", face.getTypeParameters().length, 0);
+        due.is("it has no package", face.getPackageName().isEmpty(), true);
+        due.is("classes inside that others see", face.getClasses().length, 0);
+    }
+
+    /** A case label takes nothing but a constant, so this compiles only while NONE is one. */
+    private static boolean isNone(int answer) {
+        switch (answer) {
+            case CodePages.NONE:
+                return true;
+            default:
+                return false;
+        }
     }
 
     private static void checkInside(Due due, Set<String> publicNames) {

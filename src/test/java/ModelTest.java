@@ -5,7 +5,7 @@ import java.util.Map;
 import java.util.Random;
 
 /**
- * Long runs of calls, answered by the class and by a second program that holds its state in another way:
+ * Long runs of all calls, answered by the class and by a second program that holds its state in another way:
  * pages as maps, an alphabet as a list of groups, ranks counted anew for each call.
  */
 public final class ModelTest {
@@ -17,7 +17,7 @@ public final class ModelTest {
     };
     private static final String[] CALL_NAMES = {
         "page", "set", "row", "standIn", "translate", "told", "order", "also", "through",
-        "text", "sign", "whole", "at", "compare", "high", "rank",
+        "text", "sign", "whole", "at", "compare", "cls", "print", "high", "rank",
     };
     private static final long THROWN = Long.MIN_VALUE;
 
@@ -91,6 +91,7 @@ public final class ModelTest {
             case "set": a = new int[] {thing, code, random.nextInt(4) == 0 ? -1 : code2}; break;
             case "whole": case "compare": a = new int[] {thing, random.nextInt(4), random.nextInt(4)}; break;
             case "at": a = new int[] {thing, random.nextInt(41), 0}; break;
+            case "cls": case "print": a = new int[] {random.nextInt(256), random.nextInt(7), 0}; break;
             default: a = new int[] {thing, code, code2}; break;
         }
         if (random.nextInt(12) == 0) {
@@ -120,6 +121,8 @@ public final class ModelTest {
             case "whole": return x.whole(a[0], a[1], a[2]);
             case "at": return x.at(a[0], a[1]);
             case "compare": return x.compare(a[0], a[1], a[2]);
+            case "cls": return x.cls(a[0], a[1]) ? 1 : 0;
+            case "print": return x.print(a[0], a[1]);
             case "high": return x.high(a[0]);
             default: return x.rank(a[0], a[1]);
         }
@@ -148,6 +151,8 @@ public final class ModelTest {
             case "whole": return whole(a[0], a[1], a[2]);
             case "at": return none(texts, a[0]) || none(texts.get(a[0]), a[1]) ? -1 : texts.get(a[0]).get(a[1]);
             case "compare": return compare(a[0], a[1], a[2]);
+            case "cls": return code(a[0]) && isOfClass((char) a[0], a[1]) ? 1 : 0;
+            case "print": return code(a[0]) ? printed(a[0], a[1]) : 0;
             case "high": return high(a[0]);
             default: return none(orders, a[0]) ? -2 : !code(a[1]) ? -4 : rank(orders.get(a[0]), a[1]);
         }
@@ -306,6 +311,16 @@ public final class ModelTest {
             }
         }
         return 0;
+    }
+
+    private static boolean isOfClass(char sign, int kind) {
+        String[] classes = {"[0-9]", "[A-Za-z]", "[A-Z]", "[a-z]", " ", "\\p{Cntrl}"};
+        return kind >= 0 && kind < classes.length && String.valueOf(sign).matches(classes[kind]);
+    }
+
+    private static int printed(int c, int i) {
+        String three = String.format("%02X", c) + "??????????+-+-++".charAt(c % 16);
+        return i >= 0 && i < 3 ? three.charAt(i) : 0;
     }
 
     private int high(int order) {

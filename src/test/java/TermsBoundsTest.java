@@ -17,6 +17,7 @@ public final class TermsBoundsTest {
         pagesOfKindTwo();
         standInsAtFirst();
         orderNumbers();
+        nativeOrder();
         codesWithoutAMeaning();
         allOrNoneHaveAMeaning();
         withoutAPageZero();
@@ -240,6 +241,18 @@ public final class TermsBoundsTest {
             x.through(n, 0, 1).is(-2);
             x.compare(n, 0, 0).is(-2);
         }
+    }
+
+    private static void nativeOrder() {
+        due.about("by kind: 0 native, by code");
+        Asked x = new Asked(due);
+        // Neither a page nor another order has a say in it.
+        x.page(1);
+        x.order(2);
+        x.through(0, 255, 0);
+        x.order(0).is(1);
+        x.ranksNatively(1);
+        x.high(1).is(255);
     }
 
     private static void codesWithoutAMeaning() {
